@@ -54,4 +54,12 @@ final class Boards {
         }
         return states;
     }
+
+    /** Steps on till a frame more is over. */
+    static void frame(ArcadeBoard board) {
+        int frames = board.look(FRAMES);
+        for (int i = 0; i < 640 && board.look(FRAMES) == frames; i++) {
+            board.run(1);
+        }
+    }
 }
