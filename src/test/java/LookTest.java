@@ -48,7 +48,8 @@ public final class LookTest {
     }
 
     private static void dots() {
-        ArcadeBoard board = Boards.on(62, 0x81, 50, 0, 3, 62, 0x12, 50, 7, 3, 50, 8, 3, 62, 0xFF, 50, 255, 3, 50, 255, 2);
+        ArcadeBoard board = Boards.on(62, 0x81, 50, 0, 3, 62, 0x12, 50, 7, 3, 50, 8, 3,
+            62, 0xFF, 50, 255, 3, 50, 255, 2);
         board.run(8);
         int set = 0;
         for (int x = 0; x < 64; x++) {
@@ -72,5 +73,24 @@ public final class LookTest {
         due.no("dot least", board.dot(Integer.MIN_VALUE, Integer.MIN_VALUE));
         due.no("dot most", board.dot(Integer.MAX_VALUE, Integer.MAX_VALUE));
         due.no("dot(0, 2^29)", board.dot(0, 1 << 29));
+
+        // What lies right behind a line's end, or the screen's, is set, and yet there is no dot.
+        ArcadeBoard full = Boards.on(47, 50, 8, 3, 50, 7, 3, 50, 255, 2, 50, 248, 2);
+        full.run(5);
+        due.yes("dot(0, 1)", full.dot(0, 1));
+        due.no("dot(64, 0)", full.dot(64, 0));
+        due.no("dot(0, 32)", full.dot(0, 32));
+        due.no("dot(64, 31)", full.dot(64, 31));
+        due.no("dot(63, -1)", full.dot(63, -1));
+        due.no("dot(-8, 1)", full.dot(-8, 1));
+        due.no("dot(0, -1)", full.dot(0, -1));
+
+        for (int bit = 0; bit < 8; bit++) {
+            ArcadeBoard one = Boards.on(62, 1 << bit, 50, 10, 3);
+            one.run(2);
+            for (int x = 0; x < 64; x++) {
+                due.same("dot(" + x + ", 1)", one.dot(x, 1) ? 1 : 0, x == 16 + bit ? 1 : 0);
+            }
+        }
     }
 }

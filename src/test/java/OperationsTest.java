@@ -210,12 +210,14 @@ public final class OperationsTest {
 
     private static void oneMoreAndLess() {
         grows(0, 1, FIXED);
+        grows(14, 15, P | FIXED);
         grows(15, 16, HALF | FIXED);
         grows(127, 128, S | HALF | FIXED);
         grows(255, 0, Z | HALF | P | FIXED);
         shrinks(1, 0, Z | HALF | P | FIXED);
         shrinks(0, 255, S | P | FIXED);
         shrinks(16, 15, P | FIXED);
+        shrinks(17, 16, HALF | FIXED);
         shrinks(129, 128, S | HALF | FIXED);
     }
 

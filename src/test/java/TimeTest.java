@@ -29,7 +29,7 @@ public final class TimeTest {
         due.look(board, Boards.TIME, 252);
     }
 
-    /** A board that halts at once, with the time brought to 7 + 4 * steps - 4. */
+    /** A board that has halted at once, at this time, which is 7 and some fours. */
     private static ArcadeBoard halted(int time) {
         ArcadeBoard board = Boards.on(118);
         Boards.steps(board, (time - 7) / 4 + 1);
@@ -74,6 +74,23 @@ public final class TimeTest {
         Boards.steps(board, 128);
         due.look(board, Boards.TIME, 0);
         due.look(board, Boards.FRAMES, 1);
+
+        // A call that is taken when a line is just met does not come again.
+        int[] times = {1024, 2048};
+        for (int time : times) {
+            int steps = time / 4;
+            ArcadeBoard just = Boards.loaded();
+            Boards.put(just, steps - 2, 251);
+            just.power(just.check());
+            Boards.steps(just, steps);
+            due.look(just, Boards.TIME, time);
+            due.look(just, Boards.CALL, time / 1024);
+            due.run(just, 1, 11);
+            due.look(just, Boards.CALL, 0);
+            due.look(just, Boards.PC, 8 * (time / 1024));
+            due.run(just, 1, 4);
+            due.look(just, Boards.CALL, 0);
+        }
     }
 
     private static void callInPlaceOfTheOther() {
@@ -115,7 +132,7 @@ public final class TimeTest {
         due.look(board, Boards.E, 0);
     }
 
-    /** The call 1 is there; JMP 32; at 32 interrupts are switched on, then comes an operation more. */
+    /** A board for which the call 1 is there, about to make this program, at 256. */
     private static ArcadeBoard withCall(int... program) {
         ArcadeBoard board = Boards.loaded();
         Boards.put(board, 256, program);
@@ -143,15 +160,6 @@ public final class TimeTest {
         due.same("peek(1023)", board.peek(1023), 1);
 
         // The number of the call is the number of the restart.
-        ArcadeBoard second = Boards.on(118);
-        second.off();
-        Boards.put(second, 0, 251, 118);
-        second.power(second.check());
-        second.run(1);
-        Boards.steps(second, 255);
-        due.look(second, Boards.TIME, 1027);
-        due.run(second, 1, 11);
-        due.look(second, Boards.PC, 8);
         ArcadeBoard late = Boards.loaded();
         Boards.put(late, 511, 251);
         late.power(late.check());
@@ -220,10 +228,7 @@ public final class TimeTest {
         due.look(board, Boards.WATCH, 3);
         due.look(board, Boards.COIN, 0);
         board.coin();
-        Boards.steps(board, 637);
-        while (board.look(Boards.TIME) < 2556) {
-            board.run(1);
-        }
+        Boards.steps(board, (2559 - board.look(Boards.TIME)) / 4);
         due.look(board, Boards.HALTED, 1);
         due.look(board, Boards.CALL, 2);
         due.look(board, Boards.SHIFT, 65280);
@@ -287,11 +292,15 @@ public final class TimeTest {
         due.yes("coin", board.coin());
         for (int count = 3; count > 0; count--) {
             due.look(board, Boards.COIN, count);
+            board.run(4);
+            due.look(board, Boards.A, 1);
             due.no("coin when held", board.coin());
             due.look(board, Boards.COIN, count);
             Boards.frame(board);
         }
         due.look(board, Boards.COIN, 0);
+        board.run(4);
+        due.look(board, Boards.A, 0);
         Boards.frame(board);
         due.look(board, Boards.COIN, 0);
         due.yes("coin again", board.coin());
