@@ -32,12 +32,12 @@ final class Due {
     }
 
     /** look(what) is due to be this. */
-    void look(ArcadeBoard board, int what, int want) {
+    void look(Board board, int what, int want) {
         same("look(" + what + ")", board.look(what), want);
     }
 
     /** A run of so many steps is due to take so many states. */
-    void run(ArcadeBoard board, int steps, int states) {
+    void run(Board board, int steps, int states) {
         same("run(" + steps + ")", board.run(steps), states);
     }
 

@@ -30,7 +30,7 @@ public final class OperationsTest {
     }
 
     private static void limitsOfRun() {
-        ArcadeBoard board = Boards.on();
+        Board board = Boards.on();
         due.wrongArgument("run(-1)", () -> board.run(-1));
         due.wrongArgument("run(61)", () -> board.run(61));
         due.wrongArgument("run least", () -> board.run(Integer.MIN_VALUE));
@@ -90,7 +90,7 @@ public final class OperationsTest {
                 if (y == 6 && z == 6) {
                     continue;
                 }
-                ArcadeBoard board = Boards.on(6, 11, 14, 22, 22, 33, 30, 44, 38, 2, 46, 16, 54, 66, 62, 77,
+                Board board = Boards.on(6, 11, 14, 22, 22, 33, 30, 44, 38, 2, 46, 16, 54, 66, 62, 77,
                     64 + 8 * y + z);
                 due.run(board, 8, 59);
                 due.run(board, 1, y == 6 || z == 6 ? 7 : 5);
@@ -109,7 +109,7 @@ public final class OperationsTest {
 
     private static void programIsNotWritten() {
         // To M at cell 5, one more there, A to 5, L and H to 511 and 512.
-        ArcadeBoard board = Boards.on(33, 5, 0, 54, 9, 52, 50, 5, 0, 34, 255, 1);
+        Board board = Boards.on(33, 5, 0, 54, 9, 52, 50, 5, 0, 34, 255, 1);
         due.run(board, 1, 10);
         due.run(board, 1, 10);
         due.same("peek(5)", board.peek(5), 52);
@@ -123,12 +123,12 @@ public final class OperationsTest {
         due.same("peek(511)", board.peek(511), 0);
         due.same("peek(512)", board.peek(512), 0);
 
-        ArcadeBoard split = Boards.on(33, 52, 18, 34, 255, 1);
+        Board split = Boards.on(33, 52, 18, 34, 255, 1);
         split.run(2);
         due.same("peek(511)", split.peek(511), 0);
         due.same("peek(512)", split.peek(512), 18);
 
-        ArcadeBoard pusher = Boards.on(49, 1, 2, 1, 52, 18, 197, 225);
+        Board pusher = Boards.on(49, 1, 2, 1, 52, 18, 197, 225);
         pusher.run(4);
         due.same("peek(511)", pusher.peek(511), 0);
         due.same("peek(512)", pusher.peek(512), 18);
@@ -140,19 +140,19 @@ public final class OperationsTest {
     /** Sets K as asked, A to a, operates with b, and looks at A and the flags. */
     private static void operates(int kind, int a, int b, int carry, int result, int flags) {
         String what = "operate " + kind + " " + a + " " + b + " " + carry;
-        ArcadeBoard board = Boards.on(55, carry == 1 ? 0 : 63, 62, a, 198 + 8 * kind, b);
+        Board board = Boards.on(55, carry == 1 ? 0 : 63, 62, a, 198 + 8 * kind, b);
         board.run(3);
         due.same("states of " + what, board.run(1), 7);
         due.same(what + ": A", board.look(Boards.A), result);
         due.same(what + ": flags", board.look(Boards.FLAGS), flags);
 
-        ArcadeBoard byRegister = Boards.on(55, carry == 1 ? 0 : 63, 62, a, 6, b, 128 + 8 * kind);
+        Board byRegister = Boards.on(55, carry == 1 ? 0 : 63, 62, a, 6, b, 128 + 8 * kind);
         byRegister.run(4);
         due.same("states of " + what, byRegister.run(1), 4);
         due.same(what + " in B: A", byRegister.look(Boards.A), result);
         due.same(what + " in B: flags", byRegister.look(Boards.FLAGS), flags);
 
-        ArcadeBoard byM = Boards.on(55, carry == 1 ? 0 : 63, 62, a, 38, 2, 54, b, 134 + 8 * kind);
+        Board byM = Boards.on(55, carry == 1 ? 0 : 63, 62, a, 38, 2, 54, b, 134 + 8 * kind);
         byM.run(5);
         due.same("states of " + what, byM.run(1), 7);
         due.same(what + " in M: A", byM.look(Boards.A), result);
@@ -234,7 +234,7 @@ public final class OperationsTest {
         for (int r = 0; r < 8; r++) {
             for (int carry = 0; carry < 2; carry++) {
                 String what = "count " + z + " of " + from + " in " + r;
-                ArcadeBoard board = Boards.on(38, 2, 55, carry == 1 ? 0 : 63, 6 + 8 * r, from, z + 8 * r);
+                Board board = Boards.on(38, 2, 55, carry == 1 ? 0 : 63, 6 + 8 * r, from, z + 8 * r);
                 board.run(4);
                 due.same("states of " + what, board.run(1), r == 6 ? 10 : 5);
                 due.same(what, board.look(r), to);
@@ -244,7 +244,7 @@ public final class OperationsTest {
     }
 
     private static void pairs() {
-        ArcadeBoard board = Boards.on(1, 2, 1, 17, 4, 3, 33, 255, 255, 49, 0, 0, 3, 19, 35, 51, 11, 27, 43, 59);
+        Board board = Boards.on(1, 2, 1, 17, 4, 3, 33, 255, 255, 49, 0, 0, 3, 19, 35, 51, 11, 27, 43, 59);
         due.run(board, 4, 40);
         due.look(board, Boards.B, 1);
         due.look(board, Boards.C, 2);
@@ -268,13 +268,13 @@ public final class OperationsTest {
         due.look(board, Boards.SP, 0);
         due.look(board, Boards.FLAGS, 2);
 
-        ArcadeBoard less = Boards.on(59, 11);
+        Board less = Boards.on(59, 11);
         less.run(2);
         due.look(less, Boards.SP, 65535);
         due.look(less, Boards.B, 255);
         due.look(less, Boards.C, 255);
 
-        ArcadeBoard sums = Boards.on(55, 33, 1, 128, 1, 2, 16, 17, 0, 112, 49, 255, 255, 9, 25, 57, 41);
+        Board sums = Boards.on(55, 33, 1, 128, 1, 2, 16, 17, 0, 112, 49, 255, 255, 9, 25, 57, 41);
         sums.run(5);
         due.run(sums, 1, 10);
         pairIs(sums, Boards.H, 0x9003, 2);
@@ -286,14 +286,14 @@ public final class OperationsTest {
         pairIs(sums, Boards.H, 4, 2);
     }
 
-    private static void pairIs(ArcadeBoard board, int upper, int word, int flags) {
+    private static void pairIs(Board board, int upper, int word, int flags) {
         due.look(board, upper, word >> 8);
         due.look(board, upper + 1, word & 255);
         due.look(board, Boards.FLAGS, flags);
     }
 
     private static void addresses() {
-        ArcadeBoard board = Boards.on(62, 7, 1, 0, 2, 2, 60, 17, 1, 2, 18, 10, 26, 50, 0, 3, 58, 0, 2,
+        Board board = Boards.on(62, 7, 1, 0, 2, 2, 60, 17, 1, 2, 18, 10, 26, 50, 0, 3, 58, 0, 2,
             33, 52, 18, 34, 4, 2, 33, 0, 0, 42, 4, 2);
         board.run(2);
         due.run(board, 1, 7);
@@ -339,7 +339,7 @@ public final class OperationsTest {
     private static void turn(int op, int a, int carry, int result, int carryAfter) {
         for (int others = 0; others < 256; others += 0xD4) {
             String what = "operation " + op + " of " + a + " with K " + carry;
-            ArcadeBoard board = withAAndFlags(a, others | carry, op);
+            Board board = withAAndFlags(a, others | carry, op);
             due.same("states of " + what, board.run(1), 4);
             due.same(what, board.look(Boards.A), result);
             due.same(what + ": flags", board.look(Boards.FLAGS), (others & 0xD4) | 2 | carryAfter);
@@ -347,8 +347,8 @@ public final class OperationsTest {
     }
 
     /** A board that is about to make the operation, with A and flags popped from a word. */
-    private static ArcadeBoard withAAndFlags(int a, int flags, int... operation) {
-        ArcadeBoard board = Boards.loaded(49, 0, 2, 1, flags, a, 49, 0, 3, 197, 241);
+    private static Board withAAndFlags(int a, int flags, int... operation) {
+        Board board = Boards.loaded(49, 0, 2, 1, flags, a, 49, 0, 3, 197, 241);
         Boards.put(board, 11, operation);
         board.power(board.check());
         board.run(5);
@@ -371,7 +371,7 @@ public final class OperationsTest {
     }
 
     private static void adjusts(int a, int flags, int result, int flagsAfter) {
-        ArcadeBoard board = withAAndFlags(a, flags, 39);
+        Board board = withAAndFlags(a, flags, 39);
         due.same("states of adjust", board.run(1), 4);
         due.same("adjust of " + a + " with " + flags, board.look(Boards.A), result);
         due.same("flags of adjust of " + a + " with " + flags, board.look(Boards.FLAGS), flagsAfter);
@@ -392,18 +392,18 @@ public final class OperationsTest {
 
     private static void conditionIs(int y, int flags, boolean holds) {
         String what = "condition " + y + " with flags " + flags;
-        ArcadeBoard go = withAAndFlags(0, flags, 194 + 8 * y, 52, 18);
+        Board go = withAAndFlags(0, flags, 194 + 8 * y, 52, 18);
         due.same("states of go, " + what, go.run(1), 10);
         due.same("PC after go, " + what, go.look(Boards.PC), holds ? 18 * 256 + 52 : 14);
         due.look(go, Boards.SP, 768);
 
-        ArcadeBoard call = withAAndFlags(0, flags, 196 + 8 * y, 52, 18);
+        Board call = withAAndFlags(0, flags, 196 + 8 * y, 52, 18);
         due.same("states of call, " + what, call.run(1), holds ? 17 : 11);
         due.same("PC after call, " + what, call.look(Boards.PC), holds ? 18 * 256 + 52 : 14);
         due.same("SP after call, " + what, call.look(Boards.SP), holds ? 766 : 768);
         due.same("word after call, " + what, call.peek(766), holds ? 14 : flags);
 
-        ArcadeBoard back = withAAndFlags(0, flags, 59, 59, 192 + 8 * y);
+        Board back = withAAndFlags(0, flags, 59, 59, 192 + 8 * y);
         back.run(2);
         due.same("states of return, " + what, back.run(1), holds ? 11 : 5);
         due.same("PC after return, " + what, back.look(Boards.PC), holds ? flags : 14);
@@ -411,7 +411,7 @@ public final class OperationsTest {
     }
 
     private static void stack() {
-        ArcadeBoard board = Boards.on(49, 0, 3, 1, 2, 1, 17, 4, 3, 33, 6, 5, 197, 213, 229, 193, 209, 225);
+        Board board = Boards.on(49, 0, 3, 1, 2, 1, 17, 4, 3, 33, 6, 5, 197, 213, 229, 193, 209, 225);
         board.run(4);
         due.run(board, 3, 33);
         due.look(board, Boards.SP, 762);
@@ -429,17 +429,17 @@ public final class OperationsTest {
         due.look(board, Boards.L, 2);
 
         // Of the flags' byte only the five flags come and go; 2 is always 1, the others 0.
-        ArcadeBoard flags = withAAndFlags(9, 255, 245);
+        Board flags = withAAndFlags(9, 255, 245);
         due.look(flags, Boards.FLAGS, 0xD7);
         due.look(flags, Boards.A, 9);
         due.run(flags, 1, 11);
         due.same("flags pushed", flags.peek(766), 0xD7);
         due.same("A pushed", flags.peek(767), 9);
-        ArcadeBoard none = withAAndFlags(9, 0x28, 245);
+        Board none = withAAndFlags(9, 0x28, 245);
         due.look(none, Boards.FLAGS, 2);
 
         for (int y = 1; y < 8; y += 2) {
-            ArcadeBoard caller = Boards.on(49, 0, 3, 197 + 8 * y, 52, 18);
+            Board caller = Boards.on(49, 0, 3, 197 + 8 * y, 52, 18);
             caller.run(1);
             due.run(caller, 1, 17);
             due.look(caller, Boards.PC, 18 * 256 + 52);
@@ -448,28 +448,28 @@ public final class OperationsTest {
             due.same("peek(767)", caller.peek(767), 0);
         }
         for (int y = 1; y <= 3; y += 2) {
-            ArcadeBoard back = Boards.on(49, 0, 3, 205, 10, 0, 0, 0, 0, 0, 193 + 8 * y);
+            Board back = Boards.on(49, 0, 3, 205, 10, 0, 0, 0, 0, 0, 193 + 8 * y);
             back.run(2);
             due.run(back, 1, 10);
             due.look(back, Boards.PC, 6);
             due.look(back, Boards.SP, 768);
         }
         for (int y = 0; y < 8; y++) {
-            ArcadeBoard restart = Boards.on(49, 0, 3, 199 + 8 * y);
+            Board restart = Boards.on(49, 0, 3, 199 + 8 * y);
             restart.run(1);
             due.run(restart, 1, 11);
             due.look(restart, Boards.PC, 8 * y);
             due.same("peek(766)", restart.peek(766), 4);
         }
         for (int y = 0; y < 2; y++) {
-            ArcadeBoard go = Boards.on(195 + 8 * y, 52, 18);
+            Board go = Boards.on(195 + 8 * y, 52, 18);
             due.run(go, 1, 10);
             due.look(go, Boards.PC, 18 * 256 + 52);
         }
     }
 
     private static void exchanges() {
-        ArcadeBoard board = Boards.on(33, 52, 18, 49, 0, 3, 229, 33, 2, 1, 227, 17, 8, 7, 235, 249, 233);
+        Board board = Boards.on(33, 52, 18, 49, 0, 3, 229, 33, 2, 1, 227, 17, 8, 7, 235, 249, 233);
         board.run(4);
         due.run(board, 1, 18);
         pairIs(board, Boards.H, 18 * 256 + 52, 2);
@@ -486,7 +486,7 @@ public final class OperationsTest {
         due.look(board, Boards.PC, 7 * 256 + 8);
 
         // At 511 the lower byte is program, which stays, and the upper one is not.
-        ArcadeBoard split = Boards.loaded(49, 255, 1, 33, 52, 18, 227);
+        Board split = Boards.loaded(49, 255, 1, 33, 52, 18, 227);
         Boards.put(split, 511, 9);
         split.power(split.check());
         split.run(3);
@@ -497,25 +497,25 @@ public final class OperationsTest {
 
     private static void wrapping() {
         // PC goes on beyond cell 1023 with 16 bits; the cells come round.
-        ArcadeBoard board = Boards.on(195, 255, 255);
+        Board board = Boards.on(195, 255, 255);
         board.run(1);
         due.look(board, Boards.PC, 65535);
         due.run(board, 1, 4);
         due.look(board, Boards.PC, 0);
-        ArcadeBoard far = Boards.loaded(195, 32, 8);
+        Board far = Boards.loaded(195, 32, 8);
         Boards.put(far, 32, 62, 5);
         far.power(far.check());
         far.run(2);
         due.look(far, Boards.A, 5);
         due.look(far, Boards.PC, 2048 + 34);
         // A word that is read across the end of the addresses.
-        ArcadeBoard across = Boards.on(18, 195, 254, 255);
+        Board across = Boards.on(18, 195, 254, 255);
         across.run(1);
         due.look(across, Boards.PC, 1);
         across.run(1);
         due.look(across, Boards.PC, 65534);
         // A stack that begins at 0 goes down to 65535.
-        ArcadeBoard stack = Boards.on(1, 52, 18, 197, 225);
+        Board stack = Boards.on(1, 52, 18, 197, 225);
         stack.run(2);
         due.look(stack, Boards.SP, 65534);
         due.same("peek(1023)", stack.peek(1023), 18);
@@ -524,7 +524,7 @@ public final class OperationsTest {
         due.look(stack, Boards.SP, 0);
         pairIs(stack, Boards.H, 18 * 256 + 52, 2);
         // The word at address 65535 has its upper byte at address 0.
-        ArcadeBoard word = Boards.on(42, 255, 255);
+        Board word = Boards.on(42, 255, 255);
         word.run(1);
         pairIs(word, Boards.H, 42 * 256, 2);
     }

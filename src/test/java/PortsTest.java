@@ -13,17 +13,17 @@ public final class PortsTest {
         due.end();
     }
 
-    private static int in(ArcadeBoard board) {
+    private static int in(Board board) {
         board.run(2);
         return board.look(Boards.A);
     }
 
-    private static ArcadeBoard reader(int port) {
+    private static Board reader(int port) {
         return Boards.on(219, port, 195, 0, 0);
     }
 
     private static void switches() {
-        ArcadeBoard dips = reader(0);
+        Board dips = reader(0);
         due.yes("switches(0, 511)", dips.switches(0, 511));
         due.same("IN 0", in(dips), 255);
         due.yes("switches(0, 0x1235)", dips.switches(0, 0x1235));
@@ -35,7 +35,7 @@ public final class PortsTest {
         due.yes("switches(0, -2)", dips.switches(0, -2));
         due.same("IN 0", in(dips), 254);
 
-        ArcadeBoard inputs = reader(1);
+        Board inputs = reader(1);
         due.yes("switches(1, 255)", inputs.switches(1, 255));
         due.same("IN 1", in(inputs), 254);
         due.yes("switches(1, 0x1235)", inputs.switches(1, 0x1235));
@@ -50,7 +50,7 @@ public final class PortsTest {
         due.look(inputs, Boards.FLAGS, 2);
 
         // Off or on makes no difference, and neither do reset and power.
-        ArcadeBoard off = Boards.loaded(219, 0, 71, 219, 1);
+        Board off = Boards.loaded(219, 0, 71, 219, 1);
         due.yes("switches when off", off.switches(0, 77));
         due.yes("switches when off", off.switches(1, 78));
         off.power(off.check());
@@ -60,7 +60,7 @@ public final class PortsTest {
     }
 
     private static void coin() {
-        ArcadeBoard board = reader(1);
+        Board board = reader(1);
         board.switches(1, 6);
         due.same("IN 1", in(board), 6);
         due.yes("coin", board.coin());
@@ -71,13 +71,13 @@ public final class PortsTest {
         due.same("IN 1", in(board), 1);
         board.off();
         due.no("coin when off, held", board.coin());
-        ArcadeBoard off = new ArcadeBoard();
+        Board off = new Board();
         due.yes("coin when off", off.coin());
         due.look(off, Boards.COIN, 3);
     }
 
     private static void shiftRegister() {
-        ArcadeBoard board = Boards.on(62, 0xAB, 211, 4, 62, 0xCD, 211, 4, 62, 0xFB, 211, 2, 219, 3, 61, 211, 2, 219, 3);
+        Board board = Boards.on(62, 0xAB, 211, 4, 62, 0xCD, 211, 4, 62, 0xFB, 211, 2, 219, 3, 61, 211, 2, 219, 3);
         due.run(board, 2, 17);
         due.look(board, Boards.SHIFT, 0xAB00);
         due.run(board, 2, 17);
@@ -88,7 +88,7 @@ public final class PortsTest {
         due.look(board, Boards.A, ((0xCDAB << 3) >> 8) & 255);
         due.look(board, Boards.SHIFT, 0xCDAB);
         for (int offset = 0; offset < 8; offset++) {
-            ArcadeBoard each = Boards.on(62, 0xAB, 211, 4, 62, 0xCD, 211, 4, 62, offset, 211, 2, 219, 3);
+            Board each = Boards.on(62, 0xAB, 211, 4, 62, 0xCD, 211, 4, 62, offset, 211, 2, 219, 3);
             each.run(7);
             due.look(each, Boards.OFFSET, offset);
             due.look(each, Boards.A, (0xCDAB >> (8 - offset)) & 255);
@@ -98,7 +98,7 @@ public final class PortsTest {
     private static void otherPorts() {
         int[] others = {2, 4, 5, 6, 7, 8, 11, 128, 255};
         for (int port : others) {
-            ArcadeBoard board = Boards.on(62, 255, 211, 2, 211, 4, 211, 3, 211, 5, 219, port);
+            Board board = Boards.on(62, 255, 211, 2, 211, 4, 211, 3, 211, 5, 219, port);
             board.switches(0, 255);
             board.switches(1, 255);
             board.coin();
@@ -107,7 +107,7 @@ public final class PortsTest {
         }
         int[] nothing = {0, 1, 7, 8, 10, 11, 12, 13, 14, 255};
         for (int port : nothing) {
-            ArcadeBoard board = Boards.on(62, 255, 211, port, 219, 0);
+            Board board = Boards.on(62, 255, 211, port, 219, 0);
             due.run(board, 2, 17);
             due.look(board, Boards.SHIFT, 0);
             due.look(board, Boards.OFFSET, 0);
@@ -119,7 +119,7 @@ public final class PortsTest {
     }
 
     /** A program that puts these out to a port, one after the other, each in two steps. */
-    private static ArcadeBoard writer(int port, int... values) {
+    private static Board writer(int port, int... values) {
         int[] program = new int[4 * values.length];
         for (int i = 0; i < values.length; i++) {
             program[4 * i] = 62;
@@ -130,7 +130,7 @@ public final class PortsTest {
         return Boards.on(program);
     }
 
-    private static void soundsAre(ArcadeBoard board, int count, int... latestFirst) {
+    private static void soundsAre(Board board, int count, int... latestFirst) {
         due.same("sound(-1)", board.sound(-1), count);
         for (int k = 0; k < 10; k++) {
             int want = k < latestFirst.length && k < 8 ? latestFirst[k] : ArcadeBoard.NONE;
@@ -142,7 +142,7 @@ public final class PortsTest {
     }
 
     private static void sounds() {
-        ArcadeBoard board = writer(3, 0b101, 0b111, 0b010, 0b010, 0, 0b10000010);
+        Board board = writer(3, 0b101, 0b111, 0b010, 0b010, 0, 0b10000010);
         soundsAre(board, 0);
         board.run(2);
         soundsAre(board, 2, 26, 24);
@@ -156,7 +156,7 @@ public final class PortsTest {
 
     /** Each port has a last byte of its own. */
     private static void soundsOfBothPorts() {
-        ArcadeBoard board = Boards.on(62, 3, 211, 3, 211, 5, 211, 3, 62, 6, 211, 5);
+        Board board = Boards.on(62, 3, 211, 3, 211, 5, 211, 3, 62, 6, 211, 5);
         board.run(4);
         soundsAre(board, 4, 41, 40, 25, 24);
         board.run(2);
@@ -164,7 +164,7 @@ public final class PortsTest {
     }
 
     private static void manySounds() {
-        ArcadeBoard board = writer(5, 255, 0, 1, 3);
+        Board board = writer(5, 255, 0, 1, 3);
         board.run(2);
         soundsAre(board, 8, 47, 46, 45, 44, 43, 42, 41, 40);
         board.run(4);

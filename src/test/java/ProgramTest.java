@@ -15,12 +15,13 @@ public final class ProgramTest {
     }
 
     private static void newObject() {
-        ArcadeBoard board = new ArcadeBoard();
+        int[] cells = Boards.cells(Board::new);
+        for (int cell = 0; cell < 1024; cell++) {
+            due.same("peek(" + cell + ")", cells[cell], 0);
+        }
+        Board board = new Board();
         for (int what = 0; what <= 19; what++) {
             due.look(board, what, what == Boards.FLAGS ? 2 : 0);
-        }
-        for (int cell = 0; cell < 1024; cell++) {
-            due.same("peek(" + cell + ")", board.peek(cell), 0);
         }
         due.same("sound(-1)", board.sound(-1), 0);
         due.same("sound(0)", board.sound(0), ArcadeBoard.NONE);
@@ -29,15 +30,15 @@ public final class ProgramTest {
         due.wrongState("restore(0) of a new board", () -> board.restore(0));
         due.wrongState("restore(1) of a new board", () -> board.restore(1));
         for (int port = 0; port < 8; port++) {
-            ArcadeBoard reader = Boards.on(62, 170, 219, port);
+            Board reader = Boards.on(62, 170, 219, port);
             reader.run(2);
             due.same("IN " + port + " of a new board", reader.look(Boards.A), 0);
         }
     }
 
     private static void objectsAreApart() {
-        ArcadeBoard one = Boards.on(62, 5, 50, 0, 2);
-        ArcadeBoard other = Boards.on();
+        Board one = Boards.on(62, 5, 50, 0, 2);
+        Board other = Boards.on();
         one.run(2);
         one.save(0);
         due.same("peek(512) of the one", one.peek(512), 5);
@@ -47,7 +48,7 @@ public final class ProgramTest {
     }
 
     private static void load() {
-        ArcadeBoard board = new ArcadeBoard();
+        Board board = new Board();
         due.yes("load of four", board.load(0, 0x84736251, 4));
         peeks(board, 0, 0x51, 0x62, 0x73, 0x84, 0);
         due.yes("load of three", board.load(8, 0x84736251, 3));
@@ -71,7 +72,7 @@ public final class ProgramTest {
     }
 
     private static void loadRefused() {
-        ArcadeBoard board = new ArcadeBoard();
+        Board board = new Board();
         due.no("n 0", board.load(0, -1, 0));
         due.no("n -1", board.load(0, -1, -1));
         due.no("n 5", board.load(0, -1, 5));
@@ -88,38 +89,42 @@ public final class ProgramTest {
         due.no("cell 1024", board.load(1024, -1, 1));
         board.power(board.check());
         due.no("on", board.load(0, -1, 1));
-        for (int cell = 0; cell < 1024; cell++) {
+        int[] edges = {0, 1, 2, 3, 4, 508, 509, 510, 511, 512, 513, 1022, 1023};
+        for (int cell : edges) {
             due.same("peek(" + cell + ")", board.peek(cell), 0);
         }
+        due.same("check of what was not loaded", board.check(), 5684);
     }
 
     private static void check() {
-        ArcadeBoard board = new ArcadeBoard();
+        Board board = new Board();
         due.same("check of zeros", board.check(), 5684);
-        board.load(0, 1, 1);
-        due.same("check with the first byte 1", board.check(), plainCheck(board));
-        board.load(511, 255, 1);
-        due.same("check with the last byte 255", board.check(), plainCheck(board));
+        int[] program = new int[512];
+        sumOf("the first byte 1", program, 0, 1);
+        sumOf("the last byte 255", program, 511, 255);
         int seed = 12345;
-        for (int cell = 0; cell < 512; cell += 4) {
+        for (int cell = 0; cell < 512; cell++) {
             seed = seed * 1103515245 + 12345;
-            board.load(cell, seed, 4);
+            program[cell] = (seed >> 16) & 255;
         }
-        int sum = board.check();
-        due.same("check of many", sum, plainCheck(board));
-        due.same("check once more", board.check(), sum);
+        sumOf("many bytes", program, 100, 200);
         // A is written to work, screen and program: none of these changes the check.
-        ArcadeBoard writer = Boards.on(62, 9, 50, 0, 2, 50, 0, 3, 50, 10, 0, 118);
+        Board writer = Boards.on(62, 9, 50, 0, 2, 50, 0, 3, 50, 10, 0, 118);
         int before = writer.check();
         writer.run(4);
         due.same("check while on", writer.check(), before);
+        due.same("check once more", writer.check(), before);
+    }
+
+    private static void sumOf(String what, int[] program, int cell, int b) {
+        program[cell] = b;
+        due.same("check with " + what, Boards.loaded(program).check(), plainCheck(program));
     }
 
     /** The check once more, by dividing the bits as they come. */
-    private static int plainCheck(ArcadeBoard board) {
+    private static int plainCheck(int[] program) {
         int c = 65535;
-        for (int cell = 0; cell < 512; cell++) {
-            int b = board.peek(cell);
+        for (int b : program) {
             for (int bit = 7; bit >= 0; bit--) {
                 boolean flip = ((c >> 15) & 1) != ((b >> bit) & 1);
                 c = (c * 2) % 65536;
@@ -132,7 +137,7 @@ public final class ProgramTest {
     }
 
     private static void power() {
-        ArcadeBoard board = new ArcadeBoard();
+        Board board = new Board();
         due.wrongArgument("power(0)", () -> board.power(0));
         due.wrongArgument("power(5684 + 65536)", () -> board.power(5684 + 65536));
         due.wrongArgument("power(5684 - 65536)", () -> board.power(5684 - 65536));
@@ -149,7 +154,7 @@ public final class ProgramTest {
 
     /** Runs till all that a reset touches is other than 0, and looks what it does to each. */
     private static void powerResets() {
-        ArcadeBoard board = Boards.loaded(195, 32, 0);
+        Board board = Boards.loaded(195, 32, 0);
         Boards.put(board, 8, 201);
         Boards.put(board, 16, 201);
         Boards.put(board, 32,
@@ -182,7 +187,7 @@ public final class ProgramTest {
         board.run(8);
         due.same("the byte last written to port 3 stays", board.sound(-1), 8);
 
-        ArcadeBoard waiting = Boards.on(118);
+        Board waiting = Boards.on(118);
         Boards.steps(waiting, 300);
         due.look(waiting, Boards.CALL, 1);
         waiting.off();
@@ -191,7 +196,7 @@ public final class ProgramTest {
         looksReset(waiting);
     }
 
-    private static void looksReset(ArcadeBoard board) {
+    private static void looksReset(Board board) {
         due.look(board, Boards.PC, 0);
         due.look(board, Boards.SHIFT, 0);
         due.look(board, Boards.OFFSET, 0);
@@ -202,7 +207,7 @@ public final class ProgramTest {
     }
 
     private static void off() {
-        ArcadeBoard board = new ArcadeBoard();
+        Board board = new Board();
         due.no("off when off", board.off());
         board.power(5684);
         board.run(3);
@@ -213,7 +218,7 @@ public final class ProgramTest {
         due.wrongArgument("run(61) when off", () -> board.run(61));
     }
 
-    private static void peeks(ArcadeBoard board, int cell, int... want) {
+    private static void peeks(Board board, int cell, int... want) {
         for (int i = 0; i < want.length; i++) {
             due.same("peek(" + (cell + i) + ")", board.peek(cell + i), want[i]);
         }

@@ -1,3 +1,6 @@
+import java.util.Arrays;
+import java.util.function.Supplier;
+
 /** Promises 13 (save) and 14 (restore). */
 public final class SlotsTest {
     private static final Due due = new Due();
@@ -14,7 +17,7 @@ public final class SlotsTest {
     }
 
     private static void refused() {
-        ArcadeBoard board = new ArcadeBoard();
+        Board board = new Board();
         int[] none = {-1, 2, 3, 256, Integer.MIN_VALUE, Integer.MAX_VALUE};
         for (int slot : none) {
             due.no("save(" + slot + ")", board.save(slot));
@@ -31,8 +34,8 @@ public final class SlotsTest {
     }
 
     /** A program that changes all there is, all the time. */
-    private static ArcadeBoard busy() {
-        ArcadeBoard board = Boards.loaded(195, 32, 0);
+    private static Board busy() {
+        Board board = Boards.loaded(195, 32, 0);
         Boards.put(board, 8, 4, 201);
         Boards.put(board, 16, 20, 251, 201);
         Boards.put(board, 32, 49, 0, 4, 33, 0, 2, 62, 90,
@@ -41,42 +44,59 @@ public final class SlotsTest {
         return board;
     }
 
-    private static int[] allOf(ArcadeBoard board) {
-        int[] all = new int[20 + 1024];
+    /** All that can be seen of a board that is made in this way. */
+    private static int[] allOf(Supplier<Board> made) {
+        int[] all = Arrays.copyOf(Boards.cells(made), 1024 + 20);
+        Board board = made.get();
         for (int what = 0; what < 20; what++) {
-            all[what] = board.look(what);
-        }
-        for (int cell = 0; cell < 1024; cell++) {
-            all[20 + cell] = board.peek(cell);
+            all[1024 + what] = board.look(what);
         }
         return all;
     }
 
-    private static void same(String what, int[] got, int[] want) {
-        for (int i = 0; i < want.length; i++) {
-            due.same(what + ", " + (i < 20 ? "look " + i : "cell " + (i - 20)), got[i], want[i]);
+    private static void same(String what, Supplier<Board> got, Supplier<Board> want) {
+        int[] is = allOf(got);
+        int[] due = allOf(want);
+        for (int i = 0; i < is.length; i++) {
+            SlotsTest.due.same(what + ", " + (i < 1024 ? "cell " + i : "look " + (i - 1024)), is[i], due[i]);
         }
+    }
+
+    private static Board busyFor(int steps) {
+        Board board = busy();
+        board.coin();
+        Boards.steps(board, steps);
+        return board;
+    }
+
+    private static Board savedAt(int before, int after) {
+        Board board = busyFor(before);
+        due.yes("save", board.save(1));
+        Boards.steps(board, after);
+        return board;
+    }
+
+    private static Board restoredAt(int before, int between, int after) {
+        Board board = savedAt(before, between);
+        due.yes("restore", board.restore(1));
+        Boards.steps(board, after);
+        return board;
     }
 
     private static void allComesBack() {
         for (int before = 1; before < 2500; before = before * 2 + 7) {
-            ArcadeBoard board = busy();
-            board.coin();
-            Boards.steps(board, before);
-            int[] saved = allOf(board);
-            due.yes("save", board.save(1));
-            same("saved", allOf(board), saved);
-            Boards.steps(board, 337);
-            int[] later = allOf(board);
-            due.yes("restore", board.restore(1));
-            same("restored", allOf(board), saved);
-            Boards.steps(board, 337);
-            same("run again", allOf(board), later);
-            board.restore(1);
-            same("restored twice", allOf(board), saved);
+            int steps = before;
+            same("saved", () -> savedAt(steps, 0), () -> busyFor(steps));
+            same("restored", () -> restoredAt(steps, 337, 0), () -> busyFor(steps));
+            same("run again", () -> restoredAt(steps, 337, 100), () -> savedAt(steps, 100));
+            same("restored twice", () -> {
+                Board board = restoredAt(steps, 337, 100);
+                board.restore(1);
+                return board;
+            }, () -> busyFor(steps));
         }
         // Halted, and with a call that waits.
-        ArcadeBoard halted = Boards.on(118);
+        Board halted = Boards.on(118);
         halted.save(0);
         Boards.steps(halted, 300);
         halted.save(1);
@@ -90,7 +110,7 @@ public final class SlotsTest {
         due.look(halted, Boards.CALL, 1);
         due.look(halted, Boards.TIME, 7 + 299 * 4);
         // The coin's count and the watch.
-        ArcadeBoard counts = Boards.on(118);
+        Board counts = Boards.on(118);
         counts.coin();
         Boards.frame(counts);
         counts.save(0);
@@ -108,7 +128,7 @@ public final class SlotsTest {
 
     /** Program, switches, sounds and whether it is on are no part of a saved state. */
     private static void whatStays() {
-        ArcadeBoard board = Boards.on(62, 3, 211, 3, 219, 0, 71, 219, 1);
+        Board board = Boards.on(62, 3, 211, 3, 219, 0, 71, 219, 1);
         board.switches(0, 10);
         board.switches(1, 12);
         board.save(0);
@@ -134,7 +154,7 @@ public final class SlotsTest {
     /** What was written to 3 and 5 last comes back, so that bits sound again, or do not. */
     private static void lastWritten() {
         for (int port = 3; port <= 5; port += 2) {
-            ArcadeBoard board = Boards.on(62, 1, 211, port, 62, 3, 211, port, 62, 0, 211, port, 62, 3, 211, port);
+            Board board = Boards.on(62, 1, 211, port, 62, 3, 211, port, 62, 0, 211, port, 62, 3, 211, port);
             board.run(2);
             board.save(0);
             due.same("sounds", board.sound(-1), 1);
@@ -157,7 +177,7 @@ public final class SlotsTest {
 
     /** Whether the step before switched interrupts on decides whether a call is taken. */
     private static void switchedOn() {
-        ArcadeBoard board = Boards.loaded();
+        Board board = Boards.loaded();
         Boards.put(board, 256, 251, 4, 12);
         Boards.put(board, 16, 0);
         board.power(board.check());
@@ -184,7 +204,7 @@ public final class SlotsTest {
     }
 
     private static void slotsAreApart() {
-        ArcadeBoard board = Boards.on(4, 4, 4, 4);
+        Board board = Boards.on(4, 4, 4, 4);
         board.run(1);
         board.save(0);
         board.run(1);
@@ -202,7 +222,7 @@ public final class SlotsTest {
     }
 
     private static void offOrOn() {
-        ArcadeBoard board = Boards.on(4, 118);
+        Board board = Boards.on(4, 118);
         board.run(2);
         board.save(0);
         board.off();

@@ -19,7 +19,7 @@ public final class TimeTest {
     }
 
     private static void halts() {
-        ArcadeBoard board = Boards.on(4, 118, 4);
+        Board board = Boards.on(4, 118, 4);
         due.run(board, 2, 12);
         due.look(board, Boards.HALTED, 1);
         due.look(board, Boards.PC, 2);
@@ -30,15 +30,15 @@ public final class TimeTest {
     }
 
     /** A board that has halted at once, at this time, which is 7 and some fours. */
-    private static ArcadeBoard halted(int time) {
-        ArcadeBoard board = Boards.on(118);
+    private static Board halted(int time) {
+        Board board = Boards.on(118);
         Boards.steps(board, (time - 7) / 4 + 1);
         due.look(board, Boards.TIME, time);
         return board;
     }
 
     private static void lines() {
-        ArcadeBoard board = halted(1023);
+        Board board = halted(1023);
         due.look(board, Boards.CALL, 0);
         due.run(board, 1, 4);
         due.look(board, Boards.CALL, 1);
@@ -61,7 +61,7 @@ public final class TimeTest {
 
     /** With operations of 4 states alone the lines are met just so. */
     private static void linesMet() {
-        ArcadeBoard board = Boards.on();
+        Board board = Boards.on();
         Boards.steps(board, 255);
         due.look(board, Boards.TIME, 1020);
         due.look(board, Boards.CALL, 0);
@@ -79,7 +79,7 @@ public final class TimeTest {
         int[] times = {1024, 2048};
         for (int time : times) {
             int steps = time / 4;
-            ArcadeBoard just = Boards.loaded();
+            Board just = Boards.loaded();
             Boards.put(just, steps - 2, 251);
             just.power(just.check());
             Boards.steps(just, steps);
@@ -94,7 +94,7 @@ public final class TimeTest {
     }
 
     private static void callInPlaceOfTheOther() {
-        ArcadeBoard board = halted(2559);
+        Board board = halted(2559);
         due.look(board, Boards.CALL, 2);
         Boards.steps(board, 256);
         due.look(board, Boards.TIME, 1023);
@@ -104,7 +104,7 @@ public final class TimeTest {
     }
 
     private static void interruptWakes() {
-        ArcadeBoard board = Boards.loaded(49, 0, 3, 251, 118, 4, 195, 4, 0, 0);
+        Board board = Boards.loaded(49, 0, 3, 251, 118, 4, 195, 4, 0, 0);
         Boards.put(board, 8, 12, 201);
         Boards.put(board, 16, 28, 201);
         board.power(board.check());
@@ -133,8 +133,8 @@ public final class TimeTest {
     }
 
     /** A board for which the call 1 is there, about to make this program, at 256. */
-    private static ArcadeBoard withCall(int... program) {
-        ArcadeBoard board = Boards.loaded();
+    private static Board withCall(int... program) {
+        Board board = Boards.loaded();
         Boards.put(board, 256, program);
         board.power(board.check());
         Boards.steps(board, 256);
@@ -144,7 +144,7 @@ public final class TimeTest {
     }
 
     private static void switchedOnWaitsOneOperation() {
-        ArcadeBoard board = withCall(251, 4, 12);
+        Board board = withCall(251, 4, 12);
         due.run(board, 1, 4);
         due.look(board, Boards.INTERRUPTS, 1);
         due.look(board, Boards.CALL, 1);
@@ -160,7 +160,7 @@ public final class TimeTest {
         due.same("peek(1023)", board.peek(1023), 1);
 
         // The number of the call is the number of the restart.
-        ArcadeBoard late = Boards.loaded();
+        Board late = Boards.loaded();
         Boards.put(late, 511, 251);
         late.power(late.check());
         Boards.steps(late, 512);
@@ -173,7 +173,7 @@ public final class TimeTest {
         due.same("peek(1023)", late.peek(1023), 2);
 
         // Halting is an operation, too: the call comes right behind it.
-        ArcadeBoard halting = withCall(251, 118);
+        Board halting = withCall(251, 118);
         due.run(halting, 2, 11);
         due.look(halting, Boards.HALTED, 1);
         due.run(halting, 1, 11);
@@ -183,7 +183,7 @@ public final class TimeTest {
 
     /** They were on before the second one, so no operation more comes behind it. */
     private static void switchedOnTwice() {
-        ArcadeBoard board = withCall(251, 251, 4);
+        Board board = withCall(251, 251, 4);
         due.run(board, 2, 8);
         due.look(board, Boards.PC, 258);
         due.run(board, 1, 11);
@@ -192,7 +192,7 @@ public final class TimeTest {
     }
 
     private static void switchedOff() {
-        ArcadeBoard board = withCall(251, 243, 4);
+        Board board = withCall(251, 243, 4);
         due.run(board, 2, 8);
         due.look(board, Boards.INTERRUPTS, 0);
         due.run(board, 1, 5);
@@ -200,7 +200,7 @@ public final class TimeTest {
         due.look(board, Boards.CALL, 1);
         due.look(board, Boards.PC, 259);
         // Off and on again between: it waits again.
-        ArcadeBoard again = withCall(251, 243, 251, 4, 12);
+        Board again = withCall(251, 243, 251, 4, 12);
         due.run(again, 4, 17);
         due.look(again, Boards.B, 1);
         due.run(again, 1, 11);
@@ -208,7 +208,7 @@ public final class TimeTest {
     }
 
     private static void frames() {
-        ArcadeBoard board = Boards.on(211, 6, 195, 0, 0);
+        Board board = Boards.on(211, 6, 195, 0, 0);
         for (int i = 1; i <= 10; i++) {
             Boards.steps(board, 256);
             due.look(board, Boards.FRAMES, i);
@@ -218,7 +218,7 @@ public final class TimeTest {
     }
 
     private static void watchResets() {
-        ArcadeBoard board = Boards.on(62, 255, 211, 2, 211, 4, 211, 3, 55, 49, 0, 3, 245, 118);
+        Board board = Boards.on(62, 255, 211, 2, 211, 4, 211, 3, 55, 49, 0, 3, 245, 118);
         board.coin();
         Boards.frame(board);
         board.switches(1, 2);
@@ -253,7 +253,7 @@ public final class TimeTest {
         due.wrongState("the board stays on", () -> board.power(board.check()));
 
         // Interrupts that are on go off.
-        ArcadeBoard on = Boards.loaded(195, 32, 0);
+        Board on = Boards.loaded(195, 32, 0);
         Boards.put(on, 8, 251, 201);
         Boards.put(on, 16, 251, 201);
         Boards.put(on, 32, 251, 118, 195, 32, 0);
@@ -269,7 +269,7 @@ public final class TimeTest {
     }
 
     private static void watchIsFed() {
-        ArcadeBoard board = Boards.loaded(118);
+        Board board = Boards.loaded(118);
         board.power(board.check());
         Boards.frame(board);
         Boards.frame(board);
@@ -280,7 +280,7 @@ public final class TimeTest {
         board.power(board.check());
         Boards.frame(board);
         due.look(board, Boards.WATCH, 1);
-        ArcadeBoard fed = Boards.on(211, 6, 195, 0, 0);
+        Board fed = Boards.on(211, 6, 195, 0, 0);
         Boards.steps(fed, 256);
         due.look(fed, Boards.WATCH, 1);
         fed.run(1);
@@ -288,7 +288,7 @@ public final class TimeTest {
     }
 
     private static void coinIsHeld() {
-        ArcadeBoard board = Boards.on(211, 6, 219, 1, 195, 0, 0);
+        Board board = Boards.on(211, 6, 219, 1, 195, 0, 0);
         due.yes("coin", board.coin());
         for (int count = 3; count > 0; count--) {
             due.look(board, Boards.COIN, count);
