@@ -20,6 +20,7 @@ public final class EdgesOfCallsTest {
         loadRefusesCellsOutside();
         loadRefusesWhenOn();
         checkOfEdges();
+        checkFollowsTheProgram();
         powerTakesTheWholeCheck();
         powerRefusesAnotherCheck();
         powerRefusesWhenOn();
@@ -251,6 +252,25 @@ public final class EdgesOfCallsTest {
         Boards.put(board, cell, bytes);
         due.same("check of " + what, board.check(), want);
         due.yes("power of " + what, board.power(want));
+    }
+
+    /** "The check of the program": of what it is now, so that an earlier check is refused. */
+    private static void checkFollowsTheProgram() {
+        Board board = new Board();
+        due.same("check of zeros", board.check(), CHECK_OF_ZEROS);
+        board.load(0, 1, 1);
+        due.same("check of 1 in cell 0", board.check(), 40084);
+        due.wrongArgument("power with the check before", () -> board.power(CHECK_OF_ZEROS));
+        board.load(0, 0, 2);
+        board.load(511, 255, 1);
+        due.same("check of 255 in cell 511", board.check(), 2244);
+        due.no("load that is refused", board.load(511, 0, 2));
+        due.same("check as before", board.check(), 2244);
+        due.yes("power", board.power(2244));
+        board.off();
+        board.load(511, 1, 1);
+        due.wrongArgument("power with the check before", () -> board.power(2244));
+        due.yes("power", board.power(1557));
     }
 
     /** "IllegalArgumentException if the program's check is not this": though the lowest bits are. */
